@@ -56,6 +56,8 @@ public final class CostsTest {
         x.put(0, 2, 0);
         x.put(0, 1, 1);
         CHECK.due("person 0", x.dictator(0), 0);
+        x.put(0, 0, 1);
+        CHECK.due("all rows count, row 0 too", x.dictator(0), -2);
         CHECK.due("no such rule", x.dictator(1), -1);
         CHECK.due("rule -1", x.dictator(-1), -1);
         HonestHouse y = new HonestHouse(2, 0);
@@ -76,6 +78,8 @@ public final class CostsTest {
         }
         CHECK.due("least", x.budget(1, false), -38);
         CHECK.due("greatest", x.budget(1, true), 10);
+        x.pay(1, 1, 0, 500);
+        CHECK.due("greatest at row 1", x.budget(1, true), 497);
         x.pay(1, 0, 0, -9999);
         x.pay(1, 0, 1, -9999);
         CHECK.due("least of all", x.budget(1, false), -19998);
@@ -109,6 +113,9 @@ public final class CostsTest {
         x.pay(1, 3, 1, 1);
         CHECK.due("another payment", x.same(0, 1), 0);
         CHECK.due("another payment, the other way", x.same(1, 0), 0);
+        x.pay(1, 3, 1, 0);
+        x.put(0, 0, 2);
+        CHECK.due("another end at row 0", x.same(0, 1), 0);
         CHECK.due("no such rule", x.same(2, 0), -1);
         CHECK.due("no such other", x.same(0, 2), -1);
         CHECK.due("rule -1", x.same(-1, 0), -1);

@@ -9,6 +9,7 @@ public final class LiesTest {
         heaps();
         heapsWithOwnWords();
         heapsWithPayments();
+        heapsBehindOthers();
         CHECK.end();
     }
 
@@ -160,5 +161,40 @@ public final class LiesTest {
         CHECK.due("told", x.heap(0, 3, true), 3);
         x.pay(0, 3, 1, 3);
         CHECK.due("there is no row at which both pay more than at another", x.heap(0, 3, false), -2);
+        HonestHouse y = house(1);
+        y.put(0, 3, 1);
+        y.pay(0, 3, 0, -6);
+        y.pay(0, 3, 1, -7);
+        CHECK.due("what they are paid makes up for the worse end", y.heap(0, 3, false), 0);
+        CHECK.due("told", y.heap(0, 3, true), 3);
+        y.pay(0, 3, 0, -5);
+        // then the first is row 1, in which person 0 has wish 1
+        CHECK.due("it must be more than the end is worse by", y.heap(0, 3, false), 1);
+        HonestHouse z = house(2);
+        // row 1: wishes 1, 0; end 0, for which person 1 pays 4; both saying 0 pay nothing, but end 0 it was for 0
+        CHECK.due("one of two can't gain at the end it doesn't want", z.heap(0, 3, false), -2);
+        CHECK.due("person 1 pays 4", z.pays(0, 1, 1), 4);
+    }
+
+    /** The first row is found behind rows of others' other words, and row 0 is what is said. */
+    private static void heapsBehindOthers() {
+        HonestHouse x = new HonestHouse(0, 0);
+        x.wish();
+        x.wish();
+        x.worth(0, 0, 5);
+        x.worth(1, 0, 9);
+        x.worth(1, 1, 4);
+        x.rule(0);
+        x.put(0, 2, 1);
+        CHECK.due("person 1 at row 2", x.heap(0, 2, false), 2);
+        CHECK.due("saying row 0", x.heap(0, 2, true), 0);
+        CHECK.due("person 0 at row 2", x.heap(0, 1, false), 2);
+        CHECK.due("saying row 3", x.heap(0, 1, true), 3);
+        CHECK.due("both at row 2", x.heap(0, 3, false), 2);
+        CHECK.due("saying row 0, the least", x.heap(0, 3, true), 0);
+        x.put(0, 2, 0);
+        x.put(0, 1, 1);
+        CHECK.due("person 1 at row 1", x.heap(0, 2, false), 1);
+        CHECK.due("saying row 3", x.heap(0, 2, true), 3);
     }
 }

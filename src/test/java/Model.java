@@ -321,12 +321,24 @@ public final class Model {
         return noRule(rule) ? -1 : allLies(rules.get(rule)).size();
     }
 
-    private boolean liesTogether(Rule rule, int row, int said, int heap) {
-        int[] own = wishesOf(row);
-        int[] words = wishesOf(said);
-        for (int i = 0; i < n; i++) {
+    /** What each person has of a ROW with each WISH: written down once, as a search looks at it for all ROWS. */
+    private int[][][] allProfits(Rule rule) {
+        int[][][] profits = new int[rows()][n][list.size()];
+        for (int row = 0; row < rows(); row++) {
+            for (int person = 0; person < n; person++) {
+                for (int wish = 0; wish < list.size(); wish++) {
+                    int number = list.get(wish)[endOf(rule, row)];
+                    profits[row][person][wish] = number - paymentOf(rule, row, person);
+                }
+            }
+        }
+        return profits;
+    }
+
+    private static boolean liesTogether(int[][] honest, int[][] lying, int[] own, int[] words, int heap) {
+        for (int i = 0; i < own.length; i++) {
             boolean member = (heap & 1 << i) != 0;
-            if (member ? gainOf(rule, row, said, i) <= 0 : own[i] != words[i]) {
+            if (member ? lying[i][own[i]] <= honest[i][own[i]] : own[i] != words[i]) {
                 return false;
             }
         }
@@ -337,9 +349,14 @@ public final class Model {
         if (noRule(rule) || !in(people, 1, (1 << n) - 1)) {
             return -1;
         }
+        int[][][] profits = allProfits(rules.get(rule));
+        int[][] words = new int[rows()][];
         for (int row = 0; row < rows(); row++) {
-            for (int said = 0; said < rows(); said++) {
-                if (liesTogether(rules.get(rule), row, said, people)) {
+            words[row] = wishesOf(row);
+        }
+        for (int row = 0; row < words.length; row++) {
+            for (int said = 0; said < words.length; said++) {
+                if (liesTogether(profits[row], profits[said], words[row], words[said], people)) {
                     return told ? said : row;
                 }
             }

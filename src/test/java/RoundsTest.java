@@ -7,6 +7,7 @@ public final class RoundsTest {
         prices();
         rounds();
         longRounds();
+        workedOut();
         honestRules();
         CHECK.end();
     }
@@ -124,6 +125,34 @@ public final class RoundsTest {
         CHECK.due("person 1", y.round(0, 0), 1);
         CHECK.due("row 2: their own wish in it is 0", y.round(0, 1), 2);
         CHECK.due("-5 and -6", y.round(0, 2), 11);
+    }
+
+    /** Rules that are worked out: nothing has asked for their rows before. */
+    private static void workedOut() {
+        HonestHouse x = house();
+        x.rule(2);
+        x.rule(3);
+        // others' word 0: sums 18 8 2, 11 12 6, 9 10 8: ends 0, 1, 1
+        CHECK.due("span of a weighed rule", x.span(1, 0, 0, 0, 1), 6);
+        x.gift(1, 1, -1, 1);
+        CHECK.due("price of a weighed rule", x.price(1, 2, 0, 1), 6);
+        x.gift(1, 2, -1, 3);
+        // 18 9 5, 11 13 9, 9 11 11
+        CHECK.notNow("end 2 doesn't come", () -> x.span(1, 0, 0, 0, 2));
+        x.gift(1, 2, -1, 4);
+        // 18 9 6, 11 13 10, 9 11 12
+        CHECK.due("end 2 comes", x.price(1, 0, 0, 2), 7);
+        x.middle(2, 0, 2);
+        // tops 0 1 2; the second least of a top, 0 and 2
+        CHECK.due("span of a middle rule", x.span(2, 0, 0, 1, 2), 1);
+        x.middle(2, 0, 1);
+        CHECK.due("price of a middle rule: 0 and 1 come", x.price(2, 0, 0, 1), 6);
+        CHECK.notNow("end 2 doesn't come", () -> x.price(2, 0, 0, 2));
+        x.gift(1, 2, -1, 0);
+        CHECK.due("payments are there for a weighed rule", x.round(1, 0), -2);
+        x.middle(2, 0, 2);
+        CHECK.due("they come for a middle rule, too", x.honest(2), 3);
+        CHECK.due("as it has them", x.pays(3, 1, 0), 6);
     }
 
     /** A round through three ends that no round through two shows. */

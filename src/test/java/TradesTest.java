@@ -69,6 +69,7 @@ public final class TradesTest {
         }
         CHECK.due("no such person", x.leaves(4), -1);
         CHECK.due("person -1", x.leaves(-1), -1);
+        CHECK.due("before any other call", four(1203, 2013, 123, 123).leaves(3), 2);
         HonestHouse y = four(1203, 2013, 123, 123);
         // 0 points to 1, 1 to 2, 2 to 0; 3 to 0
         CHECK.due("a ring of three", y.rings(), 1203);
