@@ -39,6 +39,7 @@ public final class Model {
     private final List<Rule> rules = new ArrayList<>();
     private final List<List<Integer>> likings = new ArrayList<>();
     private final Held[] shelves = new Held[8];
+    private final List<Integer> allOrders = new ArrayList<>();
 
     public Model(int people, int ends) {
         n = 2 + ((people % 3) + 3) % 3;
@@ -49,6 +50,11 @@ public final class Model {
                 order.add(thing);
             }
             likings.add(order);
+        }
+        for (int number = 0; number < 10000; number++) {
+            if (digits(number) != null) {
+                allOrders.add(number);
+            }
         }
     }
 
@@ -599,16 +605,6 @@ public final class Model {
         return number;
     }
 
-    private List<Integer> allOrders() {
-        List<Integer> all = new ArrayList<>();
-        for (int number = 0; number < 10000; number++) {
-            if (digits(number) != null) {
-                all.add(number);
-            }
-        }
-        return all;
-    }
-
     public int likes(int person, int order) {
         if (noPerson(person) || digits(order) == null) {
             return -1;
@@ -716,7 +712,7 @@ public final class Model {
 
     private List<Integer> theCore() {
         List<Integer> core = new ArrayList<>();
-        for (int trade : allOrders()) {
+        for (int trade : allOrders) {
             if (blocks(trade) == -2) {
                 core.add(trade);
             }
@@ -735,7 +731,7 @@ public final class Model {
         if (digits(trade) == null) {
             return -1;
         }
-        for (int other : allOrders()) {
+        for (int other : allOrders) {
             boolean worse = false;
             boolean better = false;
             for (int i = 0; i < n; i++) {
@@ -754,7 +750,7 @@ public final class Model {
         if (digits(trade) == null) {
             return -1;
         }
-        for (int order : allOrders()) {
+        for (int order : allOrders) {
             if (turns(order) == trade) {
                 return order;
             }
@@ -768,7 +764,7 @@ public final class Model {
         }
         List<Integer> own = likings.get(person);
         int honest = own.indexOf(ringsAndRounds()[0][person]);
-        for (int order : allOrders()) {
+        for (int order : allOrders) {
             likings.set(person, digits(order));
             int lying = own.indexOf(ringsAndRounds()[0][person]);
             likings.set(person, own);
@@ -792,7 +788,7 @@ public final class Model {
             case 4:
                 return rows();
             case 5:
-                return (int) allOrders().stream().filter(trade -> good(trade) == 1).count();
+                return (int) allOrders.stream().filter(trade -> good(trade) == 1).count();
             case 6:
                 return theCore().size();
             default:
