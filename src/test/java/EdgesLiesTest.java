@@ -23,7 +23,11 @@ public final class EdgesLiesTest {
         heapNone();
         heapEmpty();
         heapAtTheLastRow();
-        heapAtRowZero();
+        heapAtEachRow();
+        heapThatIsPaid();
+        heapThatNeverAgrees();
+        heapOfEachEnd();
+        heapOfOtherWishes();
         heapWithOneLeftOut();
         heapWithOwnWords();
         CHECK.end();
@@ -257,16 +261,94 @@ public final class EdgesLiesTest {
         CHECK.due("person 3 alone", y.heap(0, 8, true), 215);
     }
 
-    /** Everyone pays 1 at row 0: the least said row is that of the heap's first person. */
-    private static void heapAtRowZero() {
-        HonestHouse x = paying(3, 2);
-        for (int person = 0; person < 3; person++) {
-            x.pay(0, 0, person, 1);
+    /** Everyone pays 1 at one row: each heap lies there, and says the least row that it can but for it. */
+    private static void heapAtEachRow() {
+        for (int row = 0; row < 8; row++) {
+            HonestHouse x = paying(3, 2);
+            for (int person = 0; person < 3; person++) {
+                x.pay(0, row, person, 1);
+            }
+            for (int heap = 1; heap <= 7; heap++) {
+                int start = row & ~heap;
+                int said = start == row ? row | heap & -heap : start;
+                CHECK.due("row " + row + ", heap " + heap, x.heap(0, heap, false), row);
+                CHECK.due("the least said, heap " + heap, x.heap(0, heap, true), said);
+            }
         }
-        for (int heap = 1; heap <= 7; heap++) {
-            CHECK.due("row 0, heap " + heap, x.heap(0, heap, false), 0);
-            CHECK.due("the least said, heap " + heap, x.heap(0, heap, true), heap & -heap);
+    }
+
+    /** Everyone is paid 1 at one row: each heap lies at the first row from which it can say that one. */
+    private static void heapThatIsPaid() {
+        for (int row = 0; row < 8; row++) {
+            HonestHouse x = paying(3, 2);
+            for (int other = 0; other < 8; other++) {
+                // both ends come about by whatever each heap says, and are worth the same
+                x.put(0, other, Integer.bitCount(other) % 2);
+            }
+            for (int person = 0; person < 3; person++) {
+                x.pay(0, row, person, -1);
+            }
+            for (int heap = 1; heap <= 7; heap++) {
+                int start = row & ~heap;
+                int first = start == row ? row | heap & -heap : start;
+                CHECK.due("heap " + heap, x.heap(0, heap, false), first);
+                CHECK.due("told row " + row + ", heap " + heap, x.heap(0, heap, true), row);
+            }
         }
+    }
+
+    /** Each of two could pay less, but at no row both: alone they lie, together they don't. */
+    private static void heapThatNeverAgrees() {
+        HonestHouse x = paying(2, 2);
+        int[][] payments = {{2, 2}, {1, 3}, {3, 1}, {2, 2}};
+        for (int row = 0; row < 4; row++) {
+            x.pay(0, row, 0, payments[row][0]);
+            x.pay(0, row, 1, payments[row][1]);
+        }
+        CHECK.due("person 0 alone", x.heap(0, 1, false), 0);
+        CHECK.due("person 1 alone", x.heap(0, 2, false), 0);
+        CHECK.due("together", x.heap(0, 3, false), -2);
+        CHECK.due("together, told", x.heap(0, 3, true), -2);
+        x.pay(0, 3, 1, 1);
+        x.pay(0, 3, 0, 1);
+        CHECK.due("together, by row 3", x.heap(0, 3, true), 3);
+    }
+
+    /** All want the one end that comes by the last row alone: the heap of all lies wherever it has not come. */
+    private static void heapOfEachEnd() {
+        for (int end = 0; end < 5; end++) {
+            int[][] numbers = new int[2][5];
+            numbers[0][end] = 7;
+            numbers[1][end] = 1;
+            HonestHouse x = Stories.of(3, numbers);
+            x.rule(0);
+            for (int row = 0; row < 8; row++) {
+                x.put(0, row, row == 7 ? end : (end + 1) % 5);
+            }
+            CHECK.due("the first row, end " + end, x.heap(0, 7, false), 0);
+            CHECK.due("told, end " + end, x.heap(0, 7, true), 7);
+            CHECK.due("persons 1 and 2, end " + end, x.heap(0, 6, false), 1);
+            CHECK.due("person 0 alone, end " + end, x.heap(0, 1, false), 6);
+            CHECK.due("told, person 0 alone", x.heap(0, 1, true), 7);
+        }
+    }
+
+    /** Who has wish 1 does not want what who has wish 0 wants: whose wish it is tells whether they lie. */
+    private static void heapOfOtherWishes() {
+        HonestHouse x = Stories.of(2, new int[][] {{5, 0}, {0, 4}});
+        x.rule(0);
+        x.put(0, 0, 1);
+        x.put(0, 3, 1);
+        // ends 1 0 0 1: at row 0 both want end 0; rows 1 and 2 please one of them, row 3 both
+        CHECK.due("both at row 0", x.heap(0, 3, false), 0);
+        CHECK.due("saying row 1", x.heap(0, 3, true), 1);
+        x.put(0, 0, 0);
+        CHECK.due("nowhere both", x.heap(0, 3, false), -2);
+        x.put(0, 3, 0);
+        x.put(0, 2, 1);
+        // ends 0 0 1 0: at row 3 both have wish 1, and want end 1
+        CHECK.due("both at row 3", x.heap(0, 3, false), 3);
+        CHECK.due("saying row 2", x.heap(0, 3, true), 2);
     }
 
     /** "each of it has a GAIN above 0": 0 is not enough, for whichever of them. */

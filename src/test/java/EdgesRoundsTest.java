@@ -9,6 +9,7 @@ public final class EdgesRoundsTest {
         spanNotComing();
         spanBothFaults();
         spanLimits();
+        spanLeast();
         spanToItself();
         spanOwnWish();
         roundRanges();
@@ -17,11 +18,13 @@ public final class EdgesRoundsTest {
         roundOfNothing();
         roundLimits();
         roundOnceAtMost();
+        roundsThroughAllWays();
         priceRanges();
         priceNotComing();
         priceWithRound();
         priceBothFaults();
         priceOfTheLeast();
+        priceByOtherEnds();
         priceBelowNothing();
         honestRanges();
         honestFull();
@@ -86,10 +89,22 @@ public final class EdgesRoundsTest {
         HonestHouse y = bringing(numbers, 1, 0);
         CHECK.due("the least", y.span(0, 0, 0, 0, 1), -198);
         CHECK.due("the least, the other way", y.span(0, 0, 0, 1, 0), -198);
-        int[][] five = {{0, 0, 0, 0, 9}, {0, 0, 0, 0, 8}, {0, 0, 0, 0, 7}, {0, 0, 0, 0, 6}, {0, 0, 0, 0, 5}, {3, 0, 0, 0, 0}};
-        HonestHouse z = bringing(five, 4, 4, 4, 4, 4, 0);
-        CHECK.due("the least of five wishes", z.span(0, 0, 0, 0, 4), 5);
-        CHECK.due("of one wish", z.span(0, 35, 0, 4, 0), 3);
+    }
+
+    /** "the least, over WISHES of that person by which f comes", whichever it is; other wishes don't count. */
+    private static void spanLeast() {
+        for (int least = 0; least < 5; least++) {
+            int[][] numbers = new int[6][5];
+            for (int wish = 0; wish < 5; wish++) {
+                numbers[wish][4] = wish == least ? 5 : 9 - wish;
+                numbers[wish][0] = wish == least ? 1 : 0;
+            }
+            numbers[5][0] = 3;
+            numbers[5][4] = -99;
+            HonestHouse x = bringing(numbers, 4, 4, 4, 4, 4, 0);
+            CHECK.due("wish " + least, x.span(0, 0, 0, 0, 4), 4);
+            CHECK.due("of one wish", x.span(0, 35, 0, 4, 0), 102);
+        }
     }
 
     /** From an end to itself it is 0, if it comes about. */
@@ -204,6 +219,64 @@ public final class EdgesRoundsTest {
         CHECK.due("the first person", x.round(0, 0), 0);
         CHECK.due("the first row", x.round(0, 1), 0);
         CHECK.due("the least of -9 and -13", x.round(0, 2), 13);
+        // 0 to 3: -2, 3 to 0: -3, 2 to 3: -7, 3 to 2: -6, and far between 0 and 2: through 3 twice it would be -18
+        HonestHouse y = bringing(new int[][] {{0, 0, -50, 3}, {2, 0, 7, 0}, {-50, 0, 0, 6}}, 0, 3, 2);
+        CHECK.due("the least of -5 and -13", y.round(0, 2), 13);
+    }
+
+    /** Each round that there can be through two to five ends, in each direction, as the only one. */
+    private static void roundsThroughAllWays() {
+        int[] way = new int[5];
+        for (int first = 0; first < 5; first++) {
+            way[0] = first;
+            goOn(way, 1, 1 << first);
+        }
+    }
+
+    /** A round is told from its least end on. */
+    private static void goOn(int[] way, int length, int seen) {
+        if (length > 1) {
+            oneRound(way, length);
+        }
+        for (int next = way[0] + 1; next < 5; next++) {
+            if ((seen >> next & 1) == 0) {
+                way[length] = next;
+                goOn(way, length + 1, seen | 1 << next);
+            }
+        }
+    }
+
+    /** Each step of the way comes to -1, or the first one to just so much that all are 0; others are far. */
+    private static void oneRound(int[] way, int length) {
+        StringBuilder told = new StringBuilder("round");
+        int[] ends = new int[length];
+        int[][] numbers = new int[length][5];
+        for (int i = 0; i < length; i++) {
+            told.append(' ').append(way[i]);
+            ends[i] = way[i];
+            java.util.Arrays.fill(numbers[i], -90);
+            numbers[i][way[i]] = 0;
+            numbers[i][way[(i + length - 1) % length]] = 1;
+        }
+        HonestHouse x = bringing(numbers, ends);
+        CHECK.due(told + ": person", x.round(0, 0), 0);
+        CHECK.due(told + ": row", x.round(0, 1), 0);
+        CHECK.due(told + ": sum", x.round(0, 2), length);
+        CHECK.due(told + ": no payments", x.honest(0), -3);
+        for (int end : ends) {
+            CHECK.notNow(told + ": no price", () -> x.price(0, 0, 0, end));
+        }
+        numbers[0][way[length - 1]] = 1 - length;
+        HonestHouse y = bringing(numbers, ends);
+        CHECK.due(told + ": of 0", y.round(0, 2), -2);
+        for (int i = 0; i < length; i++) {
+            CHECK.due(told + ": price " + i, y.price(0, 0, 0, ends[i]), -i);
+        }
+        CHECK.due(told + ": payments are there", y.honest(0), 1);
+        CHECK.due(told + ": they are honest", y.lies(1), 0);
+        for (int i = 0; i < length; i++) {
+            CHECK.due(told + ": payment " + i, y.pays(1, i, 0), -i);
+        }
     }
 
     /** Promise 22: "IllegalArgumentException: as span()". */
@@ -263,6 +336,32 @@ public final class EdgesRoundsTest {
         CHECK.due("end 4: 9 less 1 at once, 8 and 7 by end 3", x.price(0, 0, 0, 4), 8);
         HonestHouse y = bringing(numbers, 4, 4, 4);
         CHECK.due("the one end, the last", y.price(0, 8, 0, 4), 0);
+    }
+
+    /** "the least sum of LENGTHS of a way to it": at once, or through as many ends as there are. */
+    private static void priceByOtherEnds() {
+        int[][] numbers = new int[5][5];
+        for (int wish = 0; wish < 5; wish++) {
+            for (int end = 0; end < 5; end++) {
+                // to the end of a wish it costs 2 from the one before, and 20 from others
+                numbers[wish][end] = end == wish ? 10 : end == wish - 1 ? 8 : -10;
+            }
+        }
+        HonestHouse x = bringing(numbers, 0, 1, 2, 3, 4);
+        CHECK.due("end 4 at once", x.span(0, 0, 0, 0, 4), 20);
+        for (int end = 0; end < 5; end++) {
+            CHECK.due("end " + end + " step by step", x.price(0, 0, 0, end), 2 * end);
+        }
+        CHECK.due("payments", x.honest(0), 1);
+        for (int wish = 0; wish < 5; wish++) {
+            CHECK.due("wish " + wish + " pays", x.pays(1, wish, 0), 2 * wish);
+        }
+        HonestHouse y = bringing(new int[][] {{0, 7}, {5, 0}}, 1, 0);
+        CHECK.due("wish 0 brings the dearer end", y.price(0, 0, 0, 1), 7);
+        CHECK.due("payments again", y.honest(0), 1);
+        CHECK.due("wish 0 pays", y.pays(1, 0, 0), 7);
+        CHECK.due("wish 0 pays at the other row, too", y.pays(1, 2, 0), 7);
+        CHECK.due("wish 1 pays nothing", y.pays(1, 1, 0), 0);
     }
 
     /** A price may be below 0, at its least -198 for one step, and is paid as it is. */

@@ -34,6 +34,7 @@ public final class EdgesRulesTest {
         middleOtherKind();
         endRanges();
         paysRanges();
+        askedFirst();
         countRanges();
         CHECK.end();
     }
@@ -153,6 +154,16 @@ public final class EdgesRulesTest {
         SETTLED.due(-1, "rules, and 100", x -> x.worth(0, 0, 100));
         SETTLED.due(-1, "rules, and -100", x -> x.worth(0, 0, -100));
         CROWDED.due(-3, "all rules", x -> x.worth(1, 2, -99));
+        for (int kind = 0; kind < 4; kind++) {
+            int first = kind;
+            Refused one = new Refused(CHECK, () -> {
+                HonestHouse y = Stories.wishing();
+                y.rule(first);
+                return y;
+            });
+            one.due(-3, "just one rule", y -> y.worth(0, 0, 6));
+            one.due(-3, "just one rule, and a wish", y -> y.wish());
+        }
     }
 
     /** Promise 4: "A RULE of a KIND 0 .. 3: its number. -1". */
@@ -379,6 +390,31 @@ public final class EdgesRulesTest {
             SETTLED.thrownOutside("person of rule " + rule, 0, 2, (x, v) -> x.pays(of, 0, v));
         }
         SETTLED.noSuch("no such rule, row and person", x -> x.pays(4, 8, 3));
+    }
+
+    /** Nothing need have been asked before: a row that is worked out has its end, its payment and its gains at once. */
+    private static void askedFirst() {
+        for (int row = 0; row < 8; row++) {
+            for (int rule = 2; rule < 4; rule++) {
+                HonestHouse asked = Stories.settled();
+                int end = asked.end(rule, row);
+                CHECK.due("end again", asked.end(rule, row), end);
+                for (int person = 0; person < 3; person++) {
+                    int payment = asked.pays(rule, row, person);
+                    CHECK.due("pays first", Stories.settled().pays(rule, row, person), payment);
+                    int gain = asked.gain(rule, row, person, 1 - (row >> person & 1));
+                    CHECK.due("gain first", Stories.settled().gain(rule, row, person, 1 - (row >> person & 1)), gain);
+                    CHECK.due("span first", Stories.settled().span(rule, row, person, end, end), 0);
+                }
+                HonestHouse kept = Stories.settled();
+                kept.keep(0, 3, rule);
+                CHECK.due("kept first", kept.element(0, row), end);
+            }
+        }
+        // row 1 of weighed rule 2: 15 to 11, without person 1 twice 5: 5 to 11; without person 2: 10 to 11
+        CHECK.due("person 1 pays 6 by 2", Stories.settled().pays(2, 1, 1), 3);
+        CHECK.due("person 2 pays 1", Stories.settled().pays(2, 1, 2), 1);
+        CHECK.due("person 0 pays nothing", Stories.settled().pays(2, 1, 0), 0);
     }
 
     /** Promise 35: "0 PEOPLE, 1 ENDS, .. 6 of THE CORE; -1 for others"; "4 ROWS (0 without WISHES)". */

@@ -6,7 +6,7 @@ public final class EdgesShelvesTest {
     private static final Refused CROWDED = new Refused(CHECK, Stories::crowded);
     /** What the shelves of a settled house hold: R a rule, S shorts, L longs, - nothing. */
     private static final String HELD = "RSLSLRS-";
-    private static final int[] FAR = {Integer.MIN_VALUE, Integer.MIN_VALUE + 1, Integer.MAX_VALUE - 1, Integer.MAX_VALUE};
+    private static final int[] FAR = {Integer.MIN_VALUE, Integer.MIN_VALUE + 1, Integer.MAX_VALUE};
 
     public static void main(String[] args) {
         keepShelves();
@@ -345,7 +345,8 @@ public final class EdgesShelvesTest {
             HonestHouse x = Stories.settled();
             CHECK.due("i " + c[0] + " j " + c[1] + " n " + c[2], x.copy(1, c[0], 3, c[1], c[2]), c[2]);
         }
-        int[][] beyond = {{0, 0, 6}, {4, 0, 5}, {8, 0, 1}, {7, 0, 2}, {0, 5, 1}, {0, 4, 2}, {0, 1, 5}, {9, 0, 0}, {0, 6, 0}};
+        int[][] beyond = {{0, 0, 6}, {4, 0, 5}, {8, 0, 1}, {7, 0, 2}, {0, 5, 1}, {0, 4, 2}, {0, 1, 5}, {9, 0, 0},
+            {0, 6, 0}};
         for (int[] c : beyond) {
             SETTLED.due(-13, "i " + c[0] + " j " + c[1] + " n " + c[2], x -> x.copy(1, c[0], 3, c[1], c[2]));
         }

@@ -130,7 +130,7 @@ public final class EdgesTradesTest {
         throw new AssertionError(person);
     }
 
-    /** From one round, in which all leave, to as many as there are people. */
+    /** Promise 27: from one round, in which all leave, to as many as there are people, "till none is left". */
     private static void ringsAndLeaves() {
         for (int n = 2; n <= 4; n++) {
             HonestHouse all = new HonestHouse(n - 2, 0);
@@ -190,6 +190,8 @@ public final class EdgesTradesTest {
         CHECK.due("three in a ring: 1, 2, 3", liking(123, 2103, 3201, 1302).blocks(123), 14);
         CHECK.due("all four in a ring", liking(1023, 2103, 3201, 312).blocks(123), 15);
         CHECK.due("all of two", liking(10, 1).blocks(1), 3);
+        // trade 1 0 2: person 0 has the best already; 1 wants 2, and 2 wants 0, which 0 and 1 must help to
+        CHECK.due("at least as good for one, better for two", liking(120, 201, 21).blocks(102), 7);
     }
 
     /** Promise 30: "-2: none does": "one better" is wanted, all as good is not enough. */
@@ -197,6 +199,8 @@ public final class EdgesTradesTest {
         CHECK.due("each has the best", liking(123, 1023, 2013, 3012).blocks(123), -2);
         CHECK.due("a ring of all has the best", liking(1023, 2013, 3012, 123).blocks(1230), -2);
         CHECK.due("two", liking(1, 10).blocks(1), -2);
+        CHECK.due("one would swap, the other would not", liking(10, 10).blocks(1), -2);
+        CHECK.due("who would not keeps theirs", liking(10, 10).blocks(10), 2);
         SETTLED.due(-2, "rings' trade", x -> x.blocks(102));
     }
 
