@@ -151,6 +151,7 @@ public final class EdgesCostsTest {
         CROWDED.thrownOutside("welfare's rule of 8", 0, 7, (x, v) -> x.welfare(v));
     }
 
+    /** All numbers at their greatest, or at their least, at each row. */
     private static void welfareLimits() {
         int[][] numbers = new int[6][];
         for (int wish = 0; wish < 6; wish++) {

@@ -52,6 +52,7 @@ public final class EdgesLiesTest {
         EMPTY.due(-1, "THE LIST is empty, wish -1", x -> x.said(0, 0, -1));
     }
 
+    /** The first and the last row, and each person's first and last wish. */
     private static void saidCorners() {
         HonestHouse x = Stories.plain(4, 2, 6);
         int[] step = {1, 6, 36, 216};
